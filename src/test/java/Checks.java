@@ -1,0 +1,154 @@
+/** What the tests share: telling wrong answers, laying down documents and asking queries. */
+final class Checks {
+    static final int HAS = 0;
+    static final int FROM = 1;
+    static final int UPTO = 2;
+    static final int SOME = 3;
+    static final int ANY = 4;
+    static final int BOTH = 5;
+    static final int EITHER = 6;
+    static final int NOT = 7;
+    static final int NEST = 8;
+
+    /** Ints at the ends of the range and around them, for numbers that are not as said. */
+    static final int[] FAR = {Integer.MIN_VALUE, Integer.MIN_VALUE + 1, Integer.MAX_VALUE - 1, Integer.MAX_VALUE};
+
+    private static int made = 0;
+    private static int wrong = 0;
+
+    private Checks() {
+    }
+
+    static void due(String call, long got, long want) {
+        made++;
+        if (got != want) {
+            wrong++;
+            StackTraceElement[] stack = Thread.currentThread().getStackTrace();
+            StackTraceElement at = stack[2];
+            for (StackTraceElement frame : stack) {
+                if (frame.getClassName().endsWith("Test")) {
+                    at = frame;
+                    break;
+                }
+            }
+            System.out.println(at.getFileName() + ":" + at.getLineNumber() + ": " + call
+                    + " answered " + got + ", due is " + want);
+        }
+    }
+
+    static void due(String call, boolean got, boolean want) {
+        due(call, got ? 1 : 0, want ? 1 : 0);
+    }
+
+    static void same(String what, String got, String want) {
+        due(what + ": " + want + " became " + got + "; is it the same", got.equals(want), true);
+    }
+
+    static void end() {
+        System.out.println(wrong == 0 ? made + " answers are as due" : wrong + " answers are not as due");
+        if (wrong != 0) {
+            System.exit(1);
+        }
+    }
+
+    /**
+     * Lays down what a text tells: "(1" opens an object of path 1, ")" closes, "n2:5" puts the
+     * number 5 into field 2, "t0:3,4" the words 3 and 4 into field 0.
+     */
+    static void lay(BlockSearch x, String tree) {
+        for (String part : tree.split(" ")) {
+            char sign = part.charAt(0);
+            if (sign == '(') {
+                due(part, x.open(Integer.parseInt(part.substring(1))) > 0, true);
+            } else if (sign == ')') {
+                due(part, x.close() >= 0, true);
+            } else if (sign == 'n') {
+                due(part, x.number(part.charAt(1) - '0', Integer.parseInt(part.substring(3))), true);
+            } else {
+                for (String word : part.substring(3).split(",")) {
+                    due(part, x.word(part.charAt(1) - '0', Integer.parseInt(word)) > 0, true);
+                }
+            }
+        }
+    }
+
+    /** Lays down a document and adds it; the answer is that of add. */
+    static int put(BlockSearch x, int id, String tree) {
+        lay(x, tree);
+        return x.add(id);
+    }
+
+    /** A query in place of the one that was there: kind, a, b, kind, a, b, and so on. */
+    static void ask(BlockSearch x, int... tokens) {
+        x.clear();
+        int last = -1;
+        for (int i = 0; i < tokens.length; i += 3) {
+            last = x.token(tokens[i], tokens[i + 1], tokens[i + 2]);
+        }
+        due("parts to come of the whole query", last, 0);
+    }
+
+    /** The ids of the hits with their scores, as "id=score id=score". */
+    static String found(BlockSearch x) {
+        StringBuilder text = new StringBuilder();
+        for (int k = 0; x.hit(k, 0) >= 0; k++) {
+            text.append(k == 0 ? "" : " ").append(x.hit(k, 0)).append('=').append(x.hit(k, 1));
+        }
+        return text.toString();
+    }
+
+    /** Asks and searches at once. */
+    static String answer(BlockSearch x, int... tokens) {
+        ask(x, tokens);
+        x.search();
+        return found(x);
+    }
+
+    /** All that can be read without changing anything. */
+    static String picture(BlockSearch x) {
+        StringBuilder text = new StringBuilder();
+        for (int what = 0; what <= 35; what++) {
+            text.append(x.count(what)).append(' ');
+        }
+        for (int path = 0; path < 4; path++) {
+            for (int f = 0; f < 4; f++) {
+                text.append(x.type(path, f)).append(' ');
+            }
+        }
+        for (int segment = 0; segment < x.count(0); segment++) {
+            text.append('|').append(objects(x, segment));
+        }
+        for (int k = 0; k < x.count(8); k++) {
+            text.append('|');
+            for (int what = 0; what < 5; what++) {
+                text.append(x.hit(k, what)).append(' ');
+            }
+        }
+        for (int id = 0; id < 20; id++) {
+            text.append(x.score(id)).append(' ');
+        }
+        return text.toString();
+    }
+
+    private static String objects(BlockSearch x, int segment) {
+        StringBuilder text = new StringBuilder();
+        for (int number = 0; number < x.count(20 + segment); number++) {
+            for (int what = 0; what < 14; what++) {
+                text.append(x.object(segment, number, what)).append(' ');
+            }
+        }
+        return text.toString();
+    }
+
+    /** The ids of the documents of a segment, a minus before those that are deleted. */
+    static String documents(BlockSearch x, int segment) {
+        StringBuilder text = new StringBuilder();
+        for (int number = 0; number < x.count(20 + segment); number++) {
+            if (x.object(segment, number, 0) == 0) {
+                text.append(text.length() == 0 ? "" : " ").append(x.object(segment, number, 3) == 1 ? "" : "-");
+                text.append(x.object(segment, number, 2));
+            }
+        }
+        return text.toString();
+    }
+}
