@@ -66,7 +66,7 @@ public final class BlockSearch {
     private final DocumentRow[] segments = new DocumentRow[MOST_SEGMENTS];
     private final Snapshot snapshot = new Snapshot();
     private final Query query = new Query();
-    private final Scorer scorer = new Scorer(query, snapshot);
+    private final Scorer scorer = new Scorer();
     private final Hits hits = new Hits();
     private int segmentCount = 0;
     private int addedCount = 0;
@@ -223,11 +223,11 @@ public final class BlockSearch {
         if (!query.isComplete() || !snapshot.taken) {
             return NONE;
         }
-        scorer.prepare();
+        scorer.prepare(query, snapshot);
         hits.drop();
         for (int i = 0; i < snapshot.size; i++) {
             if (snapshot.live[i]) {
-                int points = scorer.pointsOf(snapshot.documents[i]);
+                int points = scorer.pointsOf(query, snapshot.documents[i]);
                 if (points != MISS) {
                     hits.insert(snapshot, i, points);
                 }
@@ -254,8 +254,8 @@ public final class BlockSearch {
         if (document == null) {
             return NONE;
         }
-        scorer.prepare();
-        int points = scorer.pointsOf(document);
+        scorer.prepare(query, snapshot);
+        int points = scorer.pointsOf(query, document);
         return points == MISS ? NONE : points;
     }
 
@@ -767,23 +767,16 @@ public final class BlockSearch {
      * table is filled from the last token to the first, without recursion.
      */
     private static final class Scorer {
-        private final Query query;
-        private final Snapshot snapshot;
         private final int[] weights = new int[MOST_TOKENS];
         private final int[] otherParts = new int[MOST_TOKENS];
         /** By token and object of the document: the score, or MISS. */
         private final int[][] table = new int[MOST_TOKENS][MOST_IN_DRAFT];
 
-        Scorer(Query query, Snapshot snapshot) {
-            this.query = query;
-            this.snapshot = snapshot;
-        }
-
-        void prepare() {
+        void prepare(Query query, Snapshot snapshot) {
             for (int t = 0; t < query.size; t++) {
                 int kind = query.kinds[t];
                 if (kind == HAS) {
-                    weights[t] = weightOf(t);
+                    weights[t] = weightOf(query, t, snapshot);
                 }
                 if (kind == BOTH || kind == EITHER) {
                     otherParts[t] = query.behind(t + 1);
@@ -791,7 +784,7 @@ public final class BlockSearch {
             }
         }
 
-        private int weightOf(int t) {
+        private static int weightOf(Query query, int t, Snapshot snapshot) {
             int all = 0;
             int holding = 0;
             for (int i = 0; i < snapshot.size; i++) {
@@ -807,19 +800,19 @@ public final class BlockSearch {
             return holding == 0 ? 0 : 1 + all / holding;
         }
 
-        int pointsOf(Document document) {
+        int pointsOf(Query query, Document document) {
             Node[] nodes = document.nodes;
             for (int t = query.size - 1; t >= 0; t--) {
                 for (int n = 0; n < nodes.length; n++) {
                     if (nodes[n].path == query.paths[t]) {
-                        table[t][n] = pointsAt(t, nodes, n);
+                        table[t][n] = pointsAt(query, t, nodes, n);
                     }
                 }
             }
             return table[0][nodes.length - 1];
         }
 
-        private int pointsAt(int t, Node[] nodes, int n) {
+        private int pointsAt(Query query, int t, Node[] nodes, int n) {
             int a = query.firsts[t];
             int b = query.seconds[t];
             switch (query.kinds[t]) {
@@ -840,7 +833,7 @@ public final class BlockSearch {
                 case NOT:
                     return table[t + 1][n] == MISS ? 0 : MISS;
                 default:
-                    return nested(t, nodes, n);
+                    return nested(query, t, nodes, n);
             }
         }
 
@@ -863,7 +856,7 @@ public final class BlockSearch {
             return right == MISS ? left : left + right;
         }
 
-        private int nested(int t, Node[] nodes, int n) {
+        private int nested(Query query, int t, Node[] nodes, int n) {
             int holding = 0;
             int sum = 0;
             int least = 0;

@@ -5,6 +5,7 @@ public final class IndexTest {
         addReplaces();
         addTypes();
         addConflicts();
+        conflictLeavesNoType();
         addFull();
         addOrderOfTests();
         removeAnywhere();
@@ -17,6 +18,7 @@ public final class IndexTest {
         mergeAll();
         refreshIsASnapshot();
         snapshotOutlivesMerge();
+        snapshotShrinks();
         hitsStay();
         Checks.end();
     }
@@ -81,14 +83,28 @@ public final class IndexTest {
         Checks.same("a conflict changes nothing", Checks.picture(x), before);
         Checks.due("a number for a text", Checks.put(x, 0, "(0 n1:1 )"), BlockSearch.CONFLICT);
         x.wipe();
+        Checks.due("before the conflict a new field", Checks.put(x, 0, "(0 (1 n2:1 ) t0:1 )"), BlockSearch.CONFLICT);
+        x.wipe();
         Checks.due("within the draft", Checks.put(x, 0, "(0 (1 t2:1 ) (1 n2:1 ) )"), BlockSearch.CONFLICT);
         x.wipe();
         Checks.due("within it, apart", Checks.put(x, 0, "(0 (1 (2 n0:1 ) ) (1 (2 t0:1 ) ) )"), BlockSearch.CONFLICT);
         x.wipe();
         Checks.same("neither of these", Checks.picture(x), before);
-        Checks.due("different paths", Checks.put(x, 0, "(0 (1 t2:1 ) (3 n2:1 ) )"), 4);
-        Checks.due("different fields", Checks.put(x, 1, "(0 (1 t2:1 n3:1 ) )"), 6);
-        Checks.due("nothing fits any type", Checks.put(x, 2, "(0 (1 ) (3 ) )"), 9);
+        Checks.due("no type is left of a conflict", Checks.put(x, 3, "(0 (1 (2 t0:1 ) ) )"), 4);
+        x.flush();
+        Checks.due("different paths", Checks.put(x, 0, "(0 (1 t2:1 ) (3 n2:1 ) )"), 3);
+        Checks.due("different fields", Checks.put(x, 1, "(0 (1 t2:1 n3:1 ) )"), 5);
+        Checks.due("nothing fits any type", Checks.put(x, 2, "(0 (1 ) (3 ) )"), 8);
+    }
+
+    private static void conflictLeavesNoType() {
+        BlockSearch x = new BlockSearch();
+        Checks.put(x, 0, "(0 n3:1 )");
+        Checks.due("a new field before the conflict", Checks.put(x, 1, "(0 n2:1 t3:1 )"), BlockSearch.CONFLICT);
+        x.wipe();
+        Checks.due("type(0, 2)", x.type(0, 2), 0);
+        Checks.due("the other type is taken", Checks.put(x, 1, "(0 t2:1 )"), 2);
+        Checks.due("type(0, 2)", x.type(0, 2), 2);
     }
 
     private static void addFull() {
@@ -320,6 +336,23 @@ public final class IndexTest {
         Checks.due("count(7), one deleted since", x.count(7), 7);
         x.search();
         Checks.due("the segment's number now", x.hit(3, 2), 0);
+    }
+
+    private static void snapshotShrinks() {
+        BlockSearch x = fourSegments();
+        Checks.due("refresh()", x.refresh(), 8);
+        for (int id = 1; id < 8; id++) {
+            x.remove(id);
+        }
+        x.merge(0, 4);
+        Checks.due("refresh, one left", x.refresh(), 1);
+        Checks.due("count(7)", x.count(7), 1);
+        Checks.same("nothing of the older one", Checks.answer(x, Checks.ANY, 0, 0), "0=1");
+        Checks.due("score(1)", x.score(1), BlockSearch.NONE);
+        x.remove(0);
+        Checks.due("refresh, none live", x.refresh(), 0);
+        Checks.due("search()", x.search(), 0);
+        Checks.due("no hit is left", x.hit(0, 0), BlockSearch.NONE);
     }
 
     private static void hitsStay() {
