@@ -13,10 +13,18 @@ final class Checks {
     /** Ints at the ends of the range and around them, for numbers that are not as said. */
     static final int[] FAR = {Integer.MIN_VALUE, Integer.MIN_VALUE + 1, Integer.MAX_VALUE - 1, Integer.MAX_VALUE};
 
+    private static final int[] OBJECT_FACTS = {0, 1, 2, 3, 4, 10, 11, 12, 13};
+
     private static int made = 0;
     private static int wrong = 0;
+    private static String sentence = "";
 
     private Checks() {
+    }
+
+    /** The sentence of the document that the answers from here on are about; a wrong one is told with it. */
+    static void about(String words) {
+        sentence = " [" + words + "]";
     }
 
     static void due(String call, long got, long want) {
@@ -32,7 +40,7 @@ final class Checks {
                 }
             }
             System.out.println(at.getFileName() + ":" + at.getLineNumber() + ": " + call
-                    + " answered " + got + ", due is " + want);
+                    + " answered " + got + ", due is " + want + sentence);
         }
     }
 
@@ -107,8 +115,11 @@ final class Checks {
     /** All that can be read without changing anything. */
     static String picture(BlockSearch x) {
         StringBuilder text = new StringBuilder();
-        for (int what = 0; what <= 35; what++) {
+        for (int what = 0; what < 10; what++) {
             text.append(x.count(what)).append(' ');
+        }
+        for (int k = 0; k < 6; k++) {
+            text.append(x.count(20 + k)).append(' ').append(x.count(30 + k)).append(' ');
         }
         for (int path = 0; path < 4; path++) {
             for (int f = 0; f < 4; f++) {
@@ -133,11 +144,50 @@ final class Checks {
     private static String objects(BlockSearch x, int segment) {
         StringBuilder text = new StringBuilder();
         for (int number = 0; number < x.count(20 + segment); number++) {
-            for (int what = 0; what < 14; what++) {
+            for (int what : OBJECT_FACTS) {
                 text.append(x.object(segment, number, what)).append(' ');
             }
         }
         return text.toString();
+    }
+
+    /** The picture and what it does not show, the draft and the query, which are used up by it. */
+    static String unveiled(BlockSearch x) {
+        StringBuilder text = new StringBuilder(picture(x));
+        text.append("| query ").append(x.search()).append(' ');
+        for (int i = 0, toCome = 1; i < 13 && toCome > 0; i++) {
+            toCome = x.token(ANY, 0, 0);
+            text.append(toCome).append(' ');
+        }
+        text.append(x.search()).append(' ').append(found(x)).append(' ').append(x.clear());
+        text.append(" | draft ");
+        for (int i = 0, left = 1; i < 4 && left > 0; i++) {
+            left = x.close();
+            text.append(left).append(' ');
+        }
+        text.append(x.add(19)).append(' ').append(x.wipe()).append(' ').append(x.flush()).append(' ');
+        for (int segment = 0; segment < x.count(0); segment++) {
+            text.append('|').append(objects(x, segment));
+        }
+        return text.toString();
+    }
+
+    /** Calls on an object. */
+    interface Calls {
+        void on(BlockSearch x);
+    }
+
+    /**
+     * Two objects get the same calls, and one of them the calls that must change nothing too: all
+     * that can be found out about them afterwards must be the same.
+     */
+    static void noTrace(String what, Calls before, Calls refused) {
+        BlockSearch plain = new BlockSearch();
+        BlockSearch tried = new BlockSearch();
+        before.on(plain);
+        before.on(tried);
+        refused.on(tried);
+        same(what + " changes nothing", unveiled(tried), unveiled(plain));
     }
 
     /** The ids of the documents of a segment, a minus before those that are deleted. */

@@ -4,10 +4,8 @@ public final class FactsTest {
         objectTree();
         objectFields();
         objectLiveNow();
-        objectWrong();
-        typeWrong();
+        typeOfEach();
         countEach();
-        countWrong();
         readingChangesNothing();
         Checks.end();
     }
@@ -63,29 +61,12 @@ public final class FactsTest {
         Checks.due("no longer there", x.object(1, 0, 0), BlockSearch.NONE);
     }
 
-    private static void objectWrong() {
-        BlockSearch x = tree();
-        for (int what : new int[] {-1, 5, 9, 14, 20, Integer.MIN_VALUE, Integer.MAX_VALUE}) {
-            Checks.due("object(0, 0, " + what + ")", x.object(0, 0, what), BlockSearch.REFUSED);
-            Checks.due("object(9, 9, " + what + ")", x.object(9, 9, what), BlockSearch.REFUSED);
-        }
-        for (int far : new int[] {-1, 8, Integer.MIN_VALUE, Integer.MAX_VALUE}) {
-            Checks.due("object(0, " + far + ", 0)", x.object(0, far, 0), BlockSearch.NONE);
-            Checks.due("object(" + far + ", 0, 3)", x.object(far, 0, 3), BlockSearch.NONE);
-        }
-        Checks.due("object(1, 0, 10)", x.object(1, 0, 10), BlockSearch.NONE);
-    }
-
-    private static void typeWrong() {
+    private static void typeOfEach() {
         BlockSearch x = tree();
         Checks.due("type(0, 0)", x.type(0, 0), 1);
         Checks.due("type(1, 2)", x.type(1, 2), 2);
         Checks.due("type(2, 1)", x.type(2, 1), 1);
         Checks.due("type(3, 3)", x.type(3, 3), 0);
-        for (int bad : new int[] {-1, 4, Integer.MIN_VALUE, Integer.MAX_VALUE}) {
-            Checks.due("type(" + bad + ", 0)", x.type(bad, 0), BlockSearch.REFUSED);
-            Checks.due("type(0, " + bad + ")", x.type(0, bad), BlockSearch.REFUSED);
-        }
         Checks.lay(x, "(0 n3:1");
         Checks.due("the draft sets no type", x.type(0, 3), 0);
         x.close();
@@ -125,19 +106,6 @@ public final class FactsTest {
         Checks.due("all deleted, still there", x.count(0), 1);
         Checks.due("count(30), none live", x.count(30), 0);
         Checks.due("count(20)", x.count(20), 3);
-    }
-
-    private static void countWrong() {
-        BlockSearch x = new BlockSearch();
-        for (int id = 0; id < 6; id++) {
-            Checks.put(x, id, "(0 )");
-            x.flush();
-        }
-        Checks.due("count(25)", x.count(25), 1);
-        Checks.due("count(35)", x.count(35), 1);
-        for (int what : new int[] {-1, 10, 19, 26, 29, 36, Integer.MIN_VALUE, Integer.MAX_VALUE}) {
-            Checks.due("count(" + what + ")", x.count(what), BlockSearch.REFUSED);
-        }
     }
 
     private static void readingChangesNothing() {

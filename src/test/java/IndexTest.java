@@ -6,16 +6,10 @@ public final class IndexTest {
         addTypes();
         addConflicts();
         conflictLeavesNoType();
-        addFull();
-        addOrderOfTests();
         removeAnywhere();
         flushKeepsLive();
-        flushOfNothing();
-        flushFull();
         mergeInOrder();
         mergeOfDeleted();
-        mergeRefusals();
-        mergeAll();
         refreshIsASnapshot();
         snapshotOutlivesMerge();
         snapshotShrinks();
@@ -107,41 +101,6 @@ public final class IndexTest {
         Checks.due("type(0, 2)", x.type(0, 2), 2);
     }
 
-    private static void addFull() {
-        BlockSearch x = new BlockSearch();
-        String ten = "(0 (1 ) (1 ) (1 ) (1 ) (1 ) (1 ) (1 ) (1 ) (1 ) )";
-        Checks.put(x, 0, ten);
-        Checks.put(x, 1, ten);
-        Checks.put(x, 0, "(0 (1 ) (1 ) (1 ) (1 ) (1 ) (1 ) (1 ) (1 ) )");
-        Checks.due("deleted ones count", x.count(2), 29);
-        String before = Checks.picture(x);
-        Checks.due("31 objects", Checks.put(x, 0, "(0 n0:1 (1 ) )"), BlockSearch.FULL);
-        Checks.due("the draft stays", x.wipe(), 2);
-        Checks.same("full changes nothing", Checks.picture(x), before);
-        Checks.due("30 objects", Checks.put(x, 2, "(0 )"), 30);
-        Checks.due("31 objects", Checks.put(x, 3, "(0 )"), BlockSearch.FULL);
-        Checks.due("flush()", x.flush(), 20);
-        Checks.due("the draft is still there", x.add(3), 1);
-    }
-
-    private static void addOrderOfTests() {
-        BlockSearch x = new BlockSearch();
-        Checks.due("add(-1), empty draft", x.add(-1), BlockSearch.REFUSED);
-        Checks.due("add(20), empty draft", x.add(20), BlockSearch.REFUSED);
-        for (int far : Checks.FAR) {
-            Checks.due("add(far)", x.add(far), BlockSearch.REFUSED);
-        }
-        String ten = "(0 n0:1 (1 ) (1 ) (1 ) (1 ) (1 ) (1 ) (1 ) (1 ) (1 ) )";
-        for (int id = 0; id < 3; id++) {
-            Checks.put(x, id, ten);
-        }
-        Checks.due("conflict before full", Checks.put(x, 3, "(0 t0:1 )"), BlockSearch.CONFLICT);
-        Checks.due("refused before conflict", x.add(20), BlockSearch.REFUSED);
-        x.wipe();
-        Checks.lay(x, "(0 t0:1");
-        Checks.due("none before conflict", x.add(3), BlockSearch.NONE);
-    }
-
     private static void removeAnywhere() {
         BlockSearch x = new BlockSearch();
         Checks.put(x, 0, "(0 )");
@@ -183,36 +142,6 @@ public final class IndexTest {
         Checks.due("the draft is not flushed", x.open(0), 1);
         Checks.due("flush()", x.flush(), 0);
         Checks.due("count(1)", x.count(1), 1);
-    }
-
-    private static void flushOfNothing() {
-        BlockSearch x = new BlockSearch();
-        Checks.due("flush, empty", x.flush(), 0);
-        Checks.put(x, 0, "(0 (1 ) )");
-        x.remove(0);
-        Checks.due("flush, none live", x.flush(), 0);
-        Checks.due("no segment", x.count(0), 0);
-        Checks.due("the buffer is empty", x.count(2), 0);
-    }
-
-    private static void flushFull() {
-        BlockSearch x = new BlockSearch();
-        for (int id = 0; id < 6; id++) {
-            Checks.put(x, id, "(0 )");
-            Checks.due("flush()", x.flush(), 1);
-        }
-        Checks.put(x, 7, "(0 )");
-        String before = Checks.picture(x);
-        Checks.due("a seventh", x.flush(), BlockSearch.FULL);
-        Checks.same("full changes nothing", Checks.picture(x), before);
-        x.remove(7);
-        Checks.due("a seventh of none", x.flush(), 0);
-        Checks.due("the buffer is empty", x.count(2), 0);
-        Checks.due("segments", x.count(0), 6);
-        Checks.put(x, 7, "(0 (3 ) )");
-        x.merge(4, 2);
-        Checks.due("room again", x.flush(), 2);
-        Checks.same("behind all others", Checks.documents(x, 5), "7");
     }
 
     private static BlockSearch fourSegments() {
@@ -266,36 +195,6 @@ public final class IndexTest {
         Checks.same("the first one again", Checks.documents(x, 0), "6 7");
     }
 
-    private static void mergeRefusals() {
-        BlockSearch x = fourSegments();
-        x.remove(1);
-        String before = Checks.picture(x);
-        int[][] bad = {{0, 0}, {0, 1}, {0, -1}, {0, 5}, {0, 6}, {0, 7}, {3, 2}, {2, 3}, {1, 4}, {4, 2}, {-1, 2},
-            {-1, 5}, {Integer.MAX_VALUE, 2}, {Integer.MIN_VALUE, 2}, {0, Integer.MAX_VALUE}, {0, Integer.MIN_VALUE},
-            {Integer.MAX_VALUE, Integer.MAX_VALUE}, {Integer.MIN_VALUE, Integer.MIN_VALUE}, {Integer.MAX_VALUE, 6}};
-        for (int[] pair : bad) {
-            Checks.due("merge(" + pair[0] + ", " + pair[1] + ")", x.merge(pair[0], pair[1]), BlockSearch.REFUSED);
-        }
-        Checks.same("refusals change nothing", Checks.picture(x), before);
-        Checks.due("the last two", x.merge(2, 2), 3);
-        Checks.due("all three", x.merge(0, 3), 1);
-        Checks.due("one alone", x.merge(0, 2), BlockSearch.REFUSED);
-    }
-
-    private static void mergeAll() {
-        BlockSearch x = new BlockSearch();
-        for (int i = 0; i < 6; i++) {
-            Checks.put(x, 19 - i, "(0 )");
-            Checks.put(x, i, "(0 (3 ) )");
-            x.flush();
-        }
-        Checks.due("merge(0, 6)", x.merge(0, 6), 1);
-        Checks.same("all of them", Checks.documents(x, 0), "19 0 18 1 17 2 16 3 15 4 14 5");
-        Checks.due("objects", x.count(20), 18);
-        Checks.due("live", x.count(30), 12);
-        Checks.due("left out", x.count(9), 0);
-    }
-
     private static void refreshIsASnapshot() {
         BlockSearch x = new BlockSearch();
         Checks.due("refresh, empty", x.refresh(), 0);
@@ -325,11 +224,12 @@ public final class IndexTest {
         Checks.due("refresh()", x.refresh(), 7);
         Checks.ask(x, Checks.FROM, 0, 1);
         x.search();
-        String before = Checks.picture(x).substring(Checks.picture(x).lastIndexOf('|'));
+        String before = Checks.found(x);
         x.merge(0, 4);
         x.remove(7);
         Checks.due("search()", x.search(), 5);
-        Checks.same("as it was", Checks.picture(x).substring(Checks.picture(x).lastIndexOf('|')), before);
+        Checks.same("as it was", Checks.found(x), before);
+        Checks.same("as it must be", before, "3=1 4=1 5=1 6=1 7=1");
         Checks.due("the segment's number then", x.hit(4, 2), 3);
         Checks.due("count(7)", x.count(7), 8);
         Checks.due("refresh()", x.refresh(), 6);

@@ -1,7 +1,7 @@
 /**
  * Long runs of calls, chosen by a fixed row of numbers, on the program and on the model side by
  * side; every answer must be the same. One run goes far beyond the 512th call: the document leaves
- * the answers there free, but no call may throw, and this program's answers stay the model's.
+ * the answers there free, but no call may throw. What to call next is chosen by the model's answers.
  */
 public final class ModelTest {
     private static final int RUNS = 1500;
@@ -40,9 +40,12 @@ public final class ModelTest {
         return below(40) == 0 ? ODD[below(ODD.length)] : below(bound);
     }
 
-    private void same(String call, long got, long want) {
+    private int same(String call, int got, int want) {
         calls++;
-        Checks.due("run " + run + " call " + calls + ": " + call, got, want);
+        if (calls <= CALLS) {
+            Checks.due("run " + run + " call " + calls + ": " + call, got, want);
+        }
+        return want;
     }
 
     private void go(int most) {
@@ -82,8 +85,7 @@ public final class ModelTest {
             finish();
         }
         int id = mostly(below(3) == 0 ? 20 : 6);
-        int got = x.add(id);
-        same("add(" + id + ")", got, m.add(id));
+        int got = same("add(" + id + ")", x.add(id), m.add(id));
         if (got < 0 && below(3) > 0) {
             same("wipe()", x.wipe(), m.wipe());
             depth = 0;
@@ -106,8 +108,7 @@ public final class ModelTest {
 
     private void begin(int path) {
         int chosen = below(40) == 0 ? mostly(4) : path;
-        int got = x.open(chosen);
-        same("open(" + chosen + ")", got, m.open(chosen));
+        int got = same("open(" + chosen + ")", x.open(chosen), m.open(chosen));
         if (got > 0) {
             openPaths[depth] = chosen;
             depth++;
@@ -115,8 +116,7 @@ public final class ModelTest {
     }
 
     private void finish() {
-        int got = x.close();
-        same("close()", got, m.close());
+        int got = same("close()", x.close(), m.close());
         depth = Math.max(got, 0);
     }
 
@@ -160,8 +160,7 @@ public final class ModelTest {
                 toCome = askOne(kind, toCome);
             }
         }
-        int many = x.search();
-        same("search()", many, m.search());
+        int many = same("search()", x.search(), m.search());
         for (int k = 0; k <= many; k++) {
             int what = mostly(5);
             same("hit(" + k + ", 0)", x.hit(k, 0), m.hit(k, 0));
@@ -185,8 +184,7 @@ public final class ModelTest {
             a = below(8) == 0 ? a : 1 + below(3);
             b = mostly(5);
         }
-        int got = x.token(kind, a, b);
-        same("token(" + kind + ", " + a + ", " + b + ")", got, m.token(kind, a, b));
+        int got = same("token(" + kind + ", " + a + ", " + b + ")", x.token(kind, a, b), m.token(kind, a, b));
         return got < 0 ? toCome : got;
     }
 
@@ -216,19 +214,15 @@ public final class ModelTest {
                 same("wipe()", x.wipe(), m.wipe());
                 depth = 0;
             }
-            case 3 -> same("add(" + a + ")", addAnyway(a), m.add(a));
+            case 3 -> {
+                if (same("add(" + a + ")", x.add(a), m.add(a)) >= 0) {
+                    depth = 0;
+                }
+            }
             case 4 -> same("token(" + a + ", " + b + ", " + c + ")", x.token(a, b, c), m.token(a, b, c));
             case 5 -> same("clear()", x.clear(), m.clear());
             case 6 -> same("number(" + a + ", " + b + ")", x.number(a, b) ? 1 : 0, m.number(a, b) ? 1 : 0);
             default -> same("word(" + a + ", " + b + ")", x.word(a, b), m.word(a, b));
         }
-    }
-
-    private int addAnyway(int id) {
-        int got = x.add(id);
-        if (got >= 0) {
-            depth = 0;
-        }
-        return got;
     }
 }

@@ -2,10 +2,7 @@
 public final class QueryTest {
     public static void main(String[] args) {
         tokenParts();
-        tokenRefusals();
-        tokenNotLookedAt();
         tokenPaths();
-        tokenFull();
         clearEmpties();
         hasWeights();
         hasCountsDeleted();
@@ -16,7 +13,6 @@ public final class QueryTest {
         nestDeep();
         nestWithinOneObject();
         searchOrder();
-        searchNeeds();
         hitFacts();
         scoreAnswers();
         wholeQuery();
@@ -35,46 +31,6 @@ public final class QueryTest {
         Checks.due("complete", x.token(4, 0, 0), BlockSearch.NONE);
         Checks.due("refused first", x.token(9, 0, 0), BlockSearch.REFUSED);
         Checks.due("clear()", x.clear(), 7);
-    }
-
-    private static void tokenRefusals() {
-        BlockSearch x = new BlockSearch();
-        int[][] bad = {{-1, 0, 0}, {9, 0, 0}, {0, -1, 0}, {0, 4, 0}, {0, 0, -1}, {0, 0, 26}, {1, -1, 0}, {1, 4, 0},
-            {1, 0, -1001}, {1, 0, 1001}, {2, -1, 0}, {2, 4, 0}, {2, 0, -1001}, {2, 0, 1001}, {3, -1, 0}, {3, 4, 0},
-            {8, -1, 0}, {8, 4, 0}, {8, 1, -1}, {8, 1, 5}, {8, 2, 5}, {8, 0, 5}};
-        for (int[] t : bad) {
-            Checks.due("token(" + t[0] + ", " + t[1] + ", " + t[2] + ")", x.token(t[0], t[1], t[2]), BlockSearch.REFUSED);
-        }
-        for (int far : Checks.FAR) {
-            Checks.due("kind far", x.token(far, 0, 0), BlockSearch.REFUSED);
-            Checks.due("HAS far", x.token(0, far, 0), BlockSearch.REFUSED);
-            Checks.due("HAS of far", x.token(0, 0, far), BlockSearch.REFUSED);
-            Checks.due("FROM far", x.token(1, 0, far), BlockSearch.REFUSED);
-            Checks.due("UPTO far", x.token(2, far, 0), BlockSearch.REFUSED);
-            Checks.due("NEST far", x.token(8, far, 0), BlockSearch.REFUSED);
-            Checks.due("NEST by far", x.token(8, 1, far), BlockSearch.REFUSED);
-        }
-        Checks.due("none came", x.clear(), 0);
-        int[][] good = {{0, 3, 0}, {0, 0, 25}, {1, 0, -1000}, {1, 3, 1000}, {2, 0, -1000}, {2, 3, 1000}, {3, 0, 0}};
-        for (int[] t : good) {
-            Checks.due("token(" + t[0] + ", " + t[1] + ", " + t[2] + ")", x.token(t[0], t[1], t[2]), 0);
-            Checks.due("clear()", x.clear(), 1);
-        }
-    }
-
-    private static void tokenNotLookedAt() {
-        BlockSearch x = new BlockSearch();
-        for (int far : Checks.FAR) {
-            Checks.due("BOTH", x.token(5, far, far), 2);
-            Checks.due("EITHER", x.token(6, far, far), 3);
-            Checks.due("NOT", x.token(7, far, far), 3);
-            Checks.due("ANY", x.token(4, far, far), 2);
-            Checks.due("SOME", x.token(3, 0, far), 1);
-            Checks.due("ANY", x.token(4, far, far), 0);
-            x.refresh();
-            Checks.due("search()", x.search(), 0);
-            Checks.due("clear()", x.clear(), 6);
-        }
     }
 
     private static void tokenPaths() {
@@ -105,26 +61,6 @@ public final class QueryTest {
         Checks.due("ANY at 3", x.token(4, 0, 0), 0);
         Checks.due("NEST, complete", x.token(8, 1, 0), BlockSearch.NONE);
         Checks.due("clear()", x.clear(), 10);
-    }
-
-    private static void tokenFull() {
-        BlockSearch x = new BlockSearch();
-        for (int i = 2; i <= 13; i++) {
-            Checks.due("BOTH", x.token(5, 0, 0), i);
-        }
-        Checks.due("a thirteenth", x.token(4, 0, 0), BlockSearch.FULL);
-        Checks.due("NEST 2 at 0", x.token(8, 2, 0), BlockSearch.NONE);
-        Checks.due("NEST 1 at 0", x.token(8, 1, 0), BlockSearch.FULL);
-        Checks.due("refused first", x.token(8, 1, 5), BlockSearch.REFUSED);
-        x.refresh();
-        Checks.due("search, not complete", x.search(), BlockSearch.NONE);
-        Checks.due("clear()", x.clear(), 12);
-        for (int i = 0; i < 11; i++) {
-            Checks.due("NOT", x.token(7, 0, 0), 1);
-        }
-        Checks.due("a twelfth", x.token(4, 0, 0), 0);
-        Checks.due("complete before full", x.token(4, 0, 0), BlockSearch.NONE);
-        Checks.due("search()", x.search(), 0);
     }
 
     private static void clearEmpties() {
@@ -312,27 +248,6 @@ public final class QueryTest {
         Checks.due("hits stay", x.count(8), 6);
         Checks.same("few in place of many", Checks.answer(x, Checks.NOT, 0, 0, Checks.SOME, 0, 0), "7=0");
         Checks.due("hit(1, 0)", x.hit(1, 0), BlockSearch.NONE);
-    }
-
-    private static void searchNeeds() {
-        BlockSearch x = new BlockSearch();
-        Checks.put(x, 0, "(0 )");
-        x.flush();
-        Checks.ask(x, Checks.ANY, 0, 0);
-        Checks.due("search, no snapshot", x.search(), BlockSearch.NONE);
-        x.refresh();
-        x.clear();
-        Checks.due("search, no query", x.search(), BlockSearch.NONE);
-        x.token(Checks.BOTH, 0, 0);
-        x.token(Checks.ANY, 0, 0);
-        Checks.due("search, not complete", x.search(), BlockSearch.NONE);
-        Checks.due("score, not complete", x.score(0), BlockSearch.NONE);
-        x.token(Checks.ANY, 0, 0);
-        Checks.due("search()", x.search(), 1);
-        Checks.due("score(0)", x.score(0), 2);
-        x.clear();
-        Checks.due("search, no query", x.search(), BlockSearch.NONE);
-        Checks.due("hits stay", x.hit(0, 1), 2);
     }
 
     private static void hitFacts() {
