@@ -86,6 +86,17 @@ final class Checks {
         return x.add(id);
     }
 
+    /** An object with documents of the ids 0, 1 and so on in one segment, and a snapshot of it. */
+    static BlockSearch indexed(String... trees) {
+        BlockSearch x = new BlockSearch();
+        for (int id = 0; id < trees.length; id++) {
+            put(x, id, trees[id]);
+        }
+        x.flush();
+        x.refresh();
+        return x;
+    }
+
     /** A query in place of the one that was there: kind, a, b, kind, a, b, and so on. */
     static void ask(BlockSearch x, int... tokens) {
         x.clear();

@@ -137,20 +137,21 @@ public final class DraftEdgesTest {
 
     private static void openTakesPathsZeroToThree() {
         Checks.about("2: path (0 to 3)");
-        for (String before : new String[] {"", "(0", "(0 )"}) {
-            BlockSearch x = new BlockSearch();
-            if (!before.isEmpty()) {
-                Checks.lay(x, before);
-            }
-            Checks.due("open(-1)", x.open(-1), REFUSED);
-            Checks.due("open(4)", x.open(4), REFUSED);
-            for (int far : Checks.FAR) {
-                Checks.due("open(" + far + ")", x.open(far), REFUSED);
-            }
-        }
         BlockSearch x = new BlockSearch();
+        openRefuses(x, "an empty draft");
         Checks.due("open(0)", x.open(0), 1);
+        openRefuses(x, "an open draft");
         Checks.due("open(3)", x.open(3), 2);
+        Checks.lay(x, ") )");
+        openRefuses(x, "a complete draft");
+    }
+
+    private static void openRefuses(BlockSearch x, String when) {
+        Checks.due("open(-1), " + when, x.open(-1), REFUSED);
+        Checks.due("open(4), " + when, x.open(4), REFUSED);
+        for (int far : Checks.FAR) {
+            Checks.due("open(" + far + "), " + when, x.open(far), REFUSED);
+        }
     }
 
     private static void openBeginsWithTheRoot() {

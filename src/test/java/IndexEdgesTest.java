@@ -607,6 +607,9 @@ public final class IndexEdgesTest {
         Checks.due("refresh()", x.refresh(), 0);
         Checks.due("none in it", x.count(7), 0);
         Checks.due("search()", x.search(), 0);
+        for (int id = 0; id < 3; id++) {
+            Checks.due("score(" + id + ")", x.score(id), NONE);
+        }
     }
 
     private static void refreshOfDeletedOnes() {

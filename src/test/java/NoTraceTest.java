@@ -19,6 +19,8 @@ public final class NoTraceTest {
         close();
         add();
         addKeepsWhatWasLive();
+        addLeavesNoTypeOfAConflict();
+        addLeavesNoTypeWhenFull();
         remove();
         flush();
         merge();
@@ -185,6 +187,35 @@ public final class NoTraceTest {
         Checks.due("none is deleted", x.count(4), 0);
         Checks.due("the buffer is flushed whole", x.flush(), 1);
         Checks.due("two were added", x.count(5), 2);
+    }
+
+    /** The draft has a new field before the one in conflict; the new field may then be of the other type. */
+    private static void addLeavesNoTypeOfAConflict() {
+        String[] with = {"(0 X )", "(0 (1 X ) )", "(0 (1 (2 X ) ) )", "(0 (3 X ) )"};
+        for (int path = 0; path < 4; path++) {
+            for (int f = 0; f < 3; f++) {
+                BlockSearch x = new BlockSearch();
+                int size = Checks.put(x, 0, with[path].replace("X", "n3:1"));
+                Checks.due("CONFLICT", Checks.put(x, 1, with[path].replace("X", "n" + f + ":1 t3:1")), CONFLICT);
+                x.wipe();
+                Checks.due("no type", x.type(path, f), 0);
+                Checks.due("the other type", Checks.put(x, 1, with[path].replace("X", "t" + f + ":1")), 2 * size);
+                Checks.due("text", x.type(path, f), 2);
+            }
+        }
+    }
+
+    private static void addLeavesNoTypeWhenFull() {
+        BlockSearch x = new BlockSearch();
+        for (int id = 0; id < 3; id++) {
+            Checks.put(x, id, NINE_AND_ROOT + " )");
+        }
+        Checks.due("FULL", Checks.put(x, 3, "(0 n0:1 )"), FULL);
+        x.wipe();
+        x.flush();
+        Checks.due("no type", x.type(0, 0), 0);
+        Checks.due("the other type", Checks.put(x, 3, "(0 t0:1 )"), 1);
+        Checks.due("text", x.type(0, 0), 2);
     }
 
     private static void remove() {

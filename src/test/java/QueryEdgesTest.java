@@ -25,6 +25,7 @@ public final class QueryEdgesTest {
         clearLeavesTheRest();
         hasCountsTimes();
         hasDividesWithoutRemainder();
+        scoresAddUp();
         hasCountsObjectsOfItsPath();
         hasCountsDeletedOnes();
         fromAndUptoAtTheirNumber();
@@ -39,6 +40,7 @@ public final class QueryEdgesTest {
         searchNeedsASnapshot();
         searchFindsNone();
         searchFindsTwenty();
+        searchByTwelveTokens();
         searchLeavesDeletedOnesOut();
         searchFallingScores();
         searchKeepsTheOrderOfEqualScores();
@@ -125,11 +127,7 @@ public final class QueryEdgesTest {
 
     /** Document 0 has a number in field 0, document 1 a text in field 1. */
     private static BlockSearch twoDocuments() {
-        BlockSearch x = new BlockSearch();
-        Checks.put(x, 0, "(0 n0:5 )");
-        Checks.put(x, 1, "(0 t1:5 )");
-        x.flush();
-        x.refresh();
+        BlockSearch x = Checks.indexed("(0 n0:5 )", "(0 t1:5 )");
         return x;
     }
 
@@ -285,13 +283,11 @@ public final class QueryEdgesTest {
 
     private static void hasCountsTimes() {
         Checks.about("HAS: FIELD a has a TEXT with WORD b. SCORE: how many times, times (1 + N / n)");
-        BlockSearch x = new BlockSearch();
-        Checks.put(x, 0, "(0 t0:25,25,25,25,25,25,25,25 )");
-        Checks.put(x, 1, "(0 t0:0,25,0,0,0,0,0,25 )");
-        Checks.put(x, 2, "(0 t0:25 )");
-        Checks.put(x, 3, "(0 t0:0,0,0,0,0,0,0,24 )");
-        x.flush();
-        x.refresh();
+        BlockSearch x = Checks.indexed(
+                "(0 t0:25,25,25,25,25,25,25,25 )",
+                "(0 t0:0,25,0,0,0,0,0,25 )",
+                "(0 t0:25 )",
+                "(0 t0:0,0,0,0,0,0,0,24 )");
         Checks.same("eight times, twice, once, never", Checks.answer(x, Checks.HAS, 0, 25), "0=16 1=4 2=2");
         Checks.same("the last of eight alone", Checks.answer(x, Checks.HAS, 0, 24), "3=5");
         Checks.same("the word 0", Checks.answer(x, Checks.HAS, 0, 0), "3=21 1=18");
@@ -313,6 +309,31 @@ public final class QueryEdgesTest {
                 Checks.due(holding + " of " + all, x.score(0), 1 + all / holding);
                 Checks.due("the last that has it", x.score(holding - 1), 1 + all / holding);
                 Checks.due("the first that has not", x.score(holding), NONE);
+            }
+        }
+    }
+
+    /** One of twenty roots has a word eight times, and six tokens ask for it. */
+    private static void scoresAddUp() {
+        Checks.about("BOTH: SCORE: their sum. EITHER: the sum of those of the parts that HOLD");
+        BlockSearch x = new BlockSearch();
+        Checks.put(x, 0, "(0 t0:3,3,3,3,3,3,3,3 )");
+        for (int id = 1; id < 20; id++) {
+            Checks.put(x, id, "(0 )");
+        }
+        x.flush();
+        x.refresh();
+        for (int kind : new int[] {Checks.BOTH, Checks.EITHER}) {
+            for (int joins = 0; joins <= 5; joins++) {
+                x.clear();
+                for (int i = 0; i < joins; i++) {
+                    x.token(kind, 0, 0);
+                }
+                for (int i = 0; i <= joins; i++) {
+                    x.token(Checks.HAS, 0, 3);
+                }
+                Checks.due((joins + 1) + " times 8 * (1 + 20 / 1)", x.score(0), 168 * (joins + 1));
+                Checks.due("of one without", x.score(1), NONE);
             }
         }
     }
@@ -365,13 +386,11 @@ public final class QueryEdgesTest {
     private static void fromAndUptoAtTheirNumber() {
         Checks.about("FROM a b: FIELD a has a NUMBER of at least b. UPTO a b: of at most b");
         for (int b : new int[] {-999, -1, 0, 1, 500, 999}) {
-            BlockSearch x = new BlockSearch();
-            Checks.put(x, 0, "(0 n3:" + (b - 1) + " )");
-            Checks.put(x, 1, "(0 n3:" + b + " )");
-            Checks.put(x, 2, "(0 n3:" + (b + 1) + " )");
-            Checks.put(x, 3, "(0 t2:5 )");
-            x.flush();
-            x.refresh();
+            BlockSearch x = Checks.indexed(
+                    "(0 n3:" + (b - 1) + " )",
+                    "(0 n3:" + b + " )",
+                    "(0 n3:" + (b + 1) + " )",
+                    "(0 t2:5 )");
             Checks.same("FROM " + b, Checks.answer(x, Checks.FROM, 3, b), "1=1 2=1");
             Checks.same("UPTO " + b, Checks.answer(x, Checks.UPTO, 3, b), "0=1 1=1");
         }
@@ -379,14 +398,7 @@ public final class QueryEdgesTest {
 
     private static void fromAndUptoAtTheEnds() {
         Checks.about("FROM and UPTO: b is -1000 to 1000, as NUMBERS are");
-        BlockSearch x = new BlockSearch();
-        Checks.put(x, 0, "(0 n0:-1000 )");
-        Checks.put(x, 1, "(0 n0:0 )");
-        Checks.put(x, 2, "(0 n0:1000 )");
-        Checks.put(x, 3, "(0 t1:1 )");
-        Checks.put(x, 4, "(0 )");
-        x.flush();
-        x.refresh();
+        BlockSearch x = Checks.indexed("(0 n0:-1000 )", "(0 n0:0 )", "(0 n0:1000 )", "(0 t1:1 )", "(0 )");
         Checks.same("FROM -1000", Checks.answer(x, Checks.FROM, 0, -1000), "0=1 1=1 2=1");
         Checks.same("FROM -999", Checks.answer(x, Checks.FROM, 0, -999), "1=1 2=1");
         Checks.same("FROM 1000", Checks.answer(x, Checks.FROM, 0, 1000), "2=1");
@@ -401,12 +413,7 @@ public final class QueryEdgesTest {
 
     private static void someAndNothing() {
         Checks.about("SOME a: FIELD a does not have nothing. SCORE 1. ANY: always. SCORE 1.");
-        BlockSearch x = new BlockSearch();
-        Checks.put(x, 0, "(0 n0:0 t3:0 )");
-        Checks.put(x, 1, "(0 t1:0 )");
-        Checks.put(x, 2, "(0 (1 n2:1 ) )");
-        x.flush();
-        x.refresh();
+        BlockSearch x = Checks.indexed("(0 n0:0 t3:0 )", "(0 t1:0 )", "(0 (1 n2:1 ) )");
         String[] want = {"0=1", "1=1", "", "0=1"};
         for (int f = 0; f < 4; f++) {
             Checks.same("SOME " + f, Checks.answer(x, Checks.SOME, f, 0), want[f]);
@@ -417,13 +424,7 @@ public final class QueryEdgesTest {
     /** Document 0 holds SOME 0 and SOME 1, 1 the first alone, 2 the second alone, 3 neither. */
     private static void bothEitherNot() {
         Checks.about("BOTH: its two parts HOLD. EITHER: at least one of its two parts HOLDS. NOT: its part does not HOLD");
-        BlockSearch x = new BlockSearch();
-        Checks.put(x, 0, "(0 n0:1 n1:1 )");
-        Checks.put(x, 1, "(0 n0:1 )");
-        Checks.put(x, 2, "(0 n1:1 )");
-        Checks.put(x, 3, "(0 )");
-        x.flush();
-        x.refresh();
+        BlockSearch x = Checks.indexed("(0 n0:1 n1:1 )", "(0 n0:1 )", "(0 n1:1 )", "(0 )");
         Checks.same("BOTH", Checks.answer(x, Checks.BOTH, 0, 0, Checks.SOME, 0, 0, Checks.SOME, 1, 0), "0=2");
         Checks.same("EITHER", Checks.answer(x, Checks.EITHER, 0, 0, Checks.SOME, 0, 0, Checks.SOME, 1, 0),
                 "0=2 1=1 2=1");
@@ -438,13 +439,7 @@ public final class QueryEdgesTest {
 
     private static void nestOfNoChild() {
         Checks.about("NEST a b: some CHILD of PATH a HOLDS its part");
-        BlockSearch x = new BlockSearch();
-        Checks.put(x, 0, "(0 )");
-        Checks.put(x, 1, "(0 (3 ) )");
-        Checks.put(x, 2, "(0 (1 ) )");
-        Checks.put(x, 3, "(0 (1 ) (1 n0:1 ) )");
-        x.flush();
-        x.refresh();
+        BlockSearch x = Checks.indexed("(0 )", "(0 (3 ) )", "(0 (1 ) )", "(0 (1 ) (1 n0:1 ) )");
         for (int b = 0; b <= 4; b++) {
             Checks.same("no child, a child", Checks.answer(x, Checks.NEST, 1, b, Checks.NOT, 0, 0, Checks.SOME, 0, 0),
                     "2=0 3=0");
@@ -474,10 +469,7 @@ public final class QueryEdgesTest {
         String[] children = {"", "(1 n0:1 ) ", "(1 n0:1 n1:1 ) ", "(1 n0:1 n1:1 n2:1 ) "};
         for (int left = 1; left <= 3; left++) {
             for (int right = 0; right <= 3; right++) {
-                BlockSearch x = new BlockSearch();
-                Checks.put(x, 0, "(0 " + children[left] + "(1 ) " + children[right] + ")");
-                x.flush();
-                x.refresh();
+                BlockSearch x = Checks.indexed("(0 " + children[left] + "(1 ) " + children[right] + ")");
                 Checks.ask(x, Checks.NEST, 1, 2, Checks.EITHER, 0, 0, Checks.SOME, 0, 0, Checks.EITHER, 0, 0,
                         Checks.SOME, 1, 0, Checks.SOME, 2, 0);
                 Checks.due(left + " and " + right, x.score(0), right == 0 ? left : (left + right) / 2);
@@ -487,12 +479,10 @@ public final class QueryEdgesTest {
 
     private static void nestOnlyOwnChildren() {
         Checks.about("NEST a b: some CHILD of PATH a: one of this OBJECT alone");
-        BlockSearch x = new BlockSearch();
-        Checks.put(x, 0, "(0 (1 (2 n0:1 ) ) (1 n3:3 ) )");
-        Checks.put(x, 1, "(0 (1 n3:3 (2 n0:1 ) ) (1 (2 n0:2 ) ) )");
-        Checks.put(x, 2, "(0 (1 n3:3 ) (1 (2 n0:1 ) ) )");
-        x.flush();
-        x.refresh();
+        BlockSearch x = Checks.indexed(
+                "(0 (1 (2 n0:1 ) ) (1 n3:3 ) )",
+                "(0 (1 n3:3 (2 n0:1 ) ) (1 (2 n0:2 ) ) )",
+                "(0 (1 n3:3 ) (1 (2 n0:1 ) ) )");
         Checks.same("together in one child", Checks.answer(x, Checks.NEST, 1, 1, Checks.BOTH, 0, 0,
                 Checks.SOME, 3, 0, Checks.NEST, 2, 1, Checks.SOME, 0, 0), "1=2");
         Checks.same("a child without", Checks.answer(x, Checks.NEST, 1, 1, Checks.BOTH, 0, 0,
@@ -560,6 +550,25 @@ public final class QueryEdgesTest {
             Checks.due("the last one", x.hit(19 - least, 0), least == 20 ? NONE : 19);
             Checks.due("none behind it", x.hit(20 - least, 0), NONE);
         }
+    }
+
+    private static void searchByTwelveTokens() {
+        Checks.about("A QUERY is a row of at most 12 TOKENS");
+        BlockSearch x = twoDocuments();
+        for (int nots = 0; nots <= 11; nots++) {
+            x.clear();
+            for (int i = 0; i < nots; i++) {
+                x.token(Checks.NOT, 0, 0);
+            }
+            x.token(Checks.SOME, 0, 0);
+            Checks.due("search()", x.search(), 1);
+            Checks.due("NOT " + nots + " times", x.hit(0, 0), nots % 2);
+            Checks.due("its score", x.score(nots % 2), nots == 0 ? 1 : 0);
+            Checks.due("the other one", x.score(1 - nots % 2), NONE);
+        }
+        Checks.same("the last token of twelve counts", Checks.answer(x, Checks.BOTH, 0, 0, Checks.BOTH, 0, 0,
+                Checks.BOTH, 0, 0, Checks.BOTH, 0, 0, Checks.BOTH, 0, 0, Checks.ANY, 0, 0, Checks.ANY, 0, 0,
+                Checks.ANY, 0, 0, Checks.ANY, 0, 0, Checks.ANY, 0, 0, Checks.NOT, 0, 0, Checks.SOME, 0, 0), "1=5");
     }
 
     private static void searchLeavesDeletedOnesOut() {

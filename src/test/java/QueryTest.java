@@ -121,24 +121,14 @@ public final class QueryTest {
     }
 
     private static void hasByPath() {
-        BlockSearch x = new BlockSearch();
-        Checks.put(x, 0, "(0 t0:1 (1 t0:1 ) (1 t0:1 ) (1 ) (3 t0:1 ) )");
-        Checks.put(x, 1, "(0 (1 ) (1 ) (1 ) (1 ) )");
-        x.flush();
-        x.refresh();
+        BlockSearch x = Checks.indexed("(0 t0:1 (1 t0:1 ) (1 t0:1 ) (1 ) (3 t0:1 ) )", "(0 (1 ) (1 ) (1 ) (1 ) )");
         Checks.same("roots: 1 + 2 / 1", Checks.answer(x, Checks.HAS, 0, 1), "0=3");
         Checks.same("path 1: 1 + 7 / 2, twice", Checks.answer(x, Checks.NEST, 1, 1, Checks.HAS, 0, 1), "0=8");
         Checks.same("path 3: 1 + 1 / 1", Checks.answer(x, Checks.NEST, 3, 1, Checks.HAS, 0, 1), "0=2");
     }
 
     private static void leaves() {
-        BlockSearch x = new BlockSearch();
-        Checks.put(x, 0, "(0 n0:-1000 )");
-        Checks.put(x, 1, "(0 n0:0 )");
-        Checks.put(x, 2, "(0 n0:1000 n2:5 )");
-        Checks.put(x, 3, "(0 t1:5 )");
-        x.flush();
-        x.refresh();
+        BlockSearch x = Checks.indexed("(0 n0:-1000 )", "(0 n0:0 )", "(0 n0:1000 n2:5 )", "(0 t1:5 )");
         Checks.same("FROM -1000", Checks.answer(x, Checks.FROM, 0, -1000), "0=1 1=1 2=1");
         Checks.same("FROM 0", Checks.answer(x, Checks.FROM, 0, 0), "1=1 2=1");
         Checks.same("FROM 1", Checks.answer(x, Checks.FROM, 0, 1), "2=1");
@@ -158,13 +148,7 @@ public final class QueryTest {
     }
 
     private static void joined() {
-        BlockSearch x = new BlockSearch();
-        Checks.put(x, 0, "(0 t0:1,1 n1:5 )");
-        Checks.put(x, 1, "(0 t0:1 )");
-        Checks.put(x, 2, "(0 n1:7 )");
-        Checks.put(x, 3, "(0 )");
-        x.flush();
-        x.refresh();
+        BlockSearch x = Checks.indexed("(0 t0:1,1 n1:5 )", "(0 t0:1 )", "(0 n1:7 )", "(0 )");
         Checks.same("BOTH", Checks.answer(x, Checks.BOTH, 0, 0, Checks.HAS, 0, 1, Checks.FROM, 1, 5), "0=7");
         Checks.same("EITHER", Checks.answer(x, Checks.EITHER, 0, 0, Checks.HAS, 0, 1, Checks.FROM, 1, 5),
                 "0=7 1=3 2=1");
@@ -179,13 +163,11 @@ public final class QueryTest {
     }
 
     private static void nestModes() {
-        BlockSearch x = new BlockSearch();
-        Checks.put(x, 0, "(0 (1 t0:1,1,1 ) (1 ) (1 t0:1 ) (1 t0:1 ) (3 t0:1 ) )");
-        Checks.put(x, 1, "(0 (1 ) (1 ) )");
-        Checks.put(x, 2, "(0 )");
-        Checks.put(x, 3, "(0 (1 t0:1,1 ) )");
-        x.flush();
-        x.refresh();
+        BlockSearch x = Checks.indexed(
+                "(0 (1 t0:1,1,1 ) (1 ) (1 t0:1 ) (1 t0:1 ) (3 t0:1 ) )",
+                "(0 (1 ) (1 ) )",
+                "(0 )",
+                "(0 (1 t0:1,1 ) )");
         String[] want = {"0=0 3=0", "0=10 3=4", "3=4 0=3", "3=4 0=2", "0=6 3=4"};
         for (int mode = 0; mode <= 4; mode++) {
             Checks.same("NEST by " + mode, Checks.answer(x, Checks.NEST, 1, mode, Checks.HAS, 0, 1), want[mode]);
@@ -200,11 +182,9 @@ public final class QueryTest {
     }
 
     private static void nestDeep() {
-        BlockSearch x = new BlockSearch();
-        Checks.put(x, 0, "(0 (1 (2 n0:1 ) (2 n0:2 ) ) (1 (2 n0:3 ) ) (1 ) )");
-        Checks.put(x, 1, "(0 (3 n0:1 ) (1 (2 n0:9 ) ) )");
-        x.flush();
-        x.refresh();
+        BlockSearch x = Checks.indexed(
+                "(0 (1 (2 n0:1 ) (2 n0:2 ) ) (1 (2 n0:3 ) ) (1 ) )",
+                "(0 (3 n0:1 ) (1 (2 n0:9 ) ) )");
         Checks.same("sum of sums", Checks.answer(x, Checks.NEST, 1, 1, Checks.NEST, 2, 1, Checks.ANY, 0, 0), "0=3 1=1");
         Checks.same("greatest of sums", Checks.answer(x, Checks.NEST, 1, 4, Checks.NEST, 2, 1, Checks.ANY, 0, 0),
                 "0=2 1=1");
@@ -218,11 +198,7 @@ public final class QueryTest {
     }
 
     private static void nestWithinOneObject() {
-        BlockSearch x = new BlockSearch();
-        Checks.put(x, 0, "(0 (1 n0:3 t1:2 ) (1 n0:9 t1:4 ) )");
-        Checks.put(x, 1, "(0 (1 n0:9 t1:2 ) )");
-        x.flush();
-        x.refresh();
+        BlockSearch x = Checks.indexed("(0 (1 n0:3 t1:2 ) (1 n0:9 t1:4 ) )", "(0 (1 n0:9 t1:2 ) )");
         Checks.same("together", Checks.answer(x, Checks.NEST, 1, 0, Checks.BOTH, 0, 0, Checks.FROM, 0, 5,
                 Checks.HAS, 1, 2), "1=0");
         Checks.same("apart", Checks.answer(x, Checks.BOTH, 0, 0, Checks.NEST, 1, 0, Checks.FROM, 0, 5,
@@ -310,11 +286,7 @@ public final class QueryTest {
     }
 
     private static void wholeQuery() {
-        BlockSearch x = new BlockSearch();
-        Checks.put(x, 0, "(0 t0:1 (1 t0:1 (2 n0:4 ) ) (3 t1:2,2 ) )");
-        Checks.put(x, 1, "(0 t0:2 (1 (2 n0:5 ) ) )");
-        x.flush();
-        x.refresh();
+        BlockSearch x = Checks.indexed("(0 t0:1 (1 t0:1 (2 n0:4 ) ) (3 t1:2,2 ) )", "(0 t0:2 (1 (2 n0:5 ) ) )");
         Checks.same("twelve tokens", Checks.answer(x,
                 Checks.EITHER, 0, 0,
                 Checks.BOTH, 0, 0,
