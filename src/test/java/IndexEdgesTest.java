@@ -25,6 +25,7 @@ public final class IndexEdgesTest {
         addSetsSixteenTypes();
         addConflictsWithTheMapping();
         addConflictsWithinTheDraft();
+        addConflictsPastObjectsWithNothing();
         addTakesNothingForAnyType();
         addThirtyObjectsAtMost();
         addCountsDeletedOnes();
@@ -231,6 +232,31 @@ public final class IndexEdgesTest {
         BlockSearch x = new BlockSearch();
         Checks.due("different paths", Checks.put(x, 0, "(0 n0:1 (1 t0:1 (2 n0:1 ) ) (3 t0:1 ) )"), 4);
         Checks.due("four types", x.count(6), 4);
+    }
+
+    /** Objects with nothing stand before, between and behind those that are in conflict. */
+    private static void addConflictsPastObjectsWithNothing() {
+        Checks.about("7: CONFLICT if some FIELD in it has a VALUE that is not of the TYPE, or a NUMBER in one OBJECT "
+                + "and a TEXT in another one");
+        String[] rows = {"", "(0 O O X O Y O )", "(0 (1 O X ) (1 O O ) (1 Y O ) )", "(0 O O X O Y O )"};
+        for (int path = 1; path < 4; path++) {
+            String row = rows[path].replace("O", "(" + path + " )");
+            String number = "(" + path + " n0:1 )";
+            String text = "(" + path + " t0:1 )";
+            BlockSearch x = new BlockSearch();
+            Checks.due("number, text", Checks.put(x, 0, row.replace("X", number).replace("Y", text)), CONFLICT);
+            x.wipe();
+            Checks.due("text, number", Checks.put(x, 0, row.replace("X", text).replace("Y", number)), CONFLICT);
+            x.wipe();
+            int size = Checks.put(x, 0, row.replace("X", text).replace("Y", text));
+            Checks.due("text, text", size > 0, true);
+            Checks.due("text", x.type(path, 0), 2);
+            Checks.due("number, nothing", Checks.put(x, 1, row.replace("X", number).replace("Y ", "")), CONFLICT);
+            x.wipe();
+            Checks.due("nothing, number", Checks.put(x, 1, row.replace("X ", "").replace("Y", number)), CONFLICT);
+            x.wipe();
+            Checks.due("nothing, text", Checks.put(x, 1, row.replace("X ", "").replace("Y", text)), 2 * size - 1);
+        }
     }
 
     private static void addTakesNothingForAnyType() {

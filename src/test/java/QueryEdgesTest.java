@@ -28,6 +28,7 @@ public final class QueryEdgesTest {
         scoresAddUp();
         hasCountsObjectsOfItsPath();
         hasCountsDeletedOnes();
+        hasCountsDeletedOnesBelow();
         fromAndUptoAtTheirNumber();
         fromAndUptoAtTheEnds();
         someAndNothing();
@@ -383,6 +384,37 @@ public final class QueryEdgesTest {
         Checks.due("search()", x.search(), 0);
     }
 
+    private static void hasCountsDeletedOnesBelow() {
+        Checks.about("HAS: (OBJECTS of DELETED DOCUMENTS are counted in both)");
+        String[] rows = {"", "(0 X X Y )", "(0 (1 X X ) (1 Y ) )", "(0 X X Y )"};
+        for (int path = 1; path < 4; path++) {
+            String with = "(" + path + " t0:1 )";
+            String without = "(" + path + " )";
+            BlockSearch x = Checks.indexed(
+                    rows[path].replace("X", without).replace("Y", with),
+                    rows[path].replace("X", without).replace("Y", without),
+                    rows[path].replace("X", without).replace("Y", with));
+            x.clear();
+            if (path == 2) {
+                x.token(Checks.NEST, 1, 1);
+            }
+            x.token(Checks.NEST, path, 1);
+            x.token(Checks.HAS, 0, 1);
+            Checks.due("all live: 1 + 9 / 2", x.score(0), 5);
+            x.remove(1);
+            x.refresh();
+            Checks.due("three without it are deleted", x.score(0), 5);
+            x.remove(2);
+            x.refresh();
+            Checks.due("one with it is deleted", x.score(0), 5);
+            Checks.put(x, 3, rows[path].replace("X", without).replace("Y", without));
+            x.flush();
+            x.merge(0, 2);
+            x.refresh();
+            Checks.due("left out by merge: 1 + 6 / 1", x.score(0), 7);
+        }
+    }
+
     private static void fromAndUptoAtTheirNumber() {
         Checks.about("FROM a b: FIELD a has a NUMBER of at least b. UPTO a b: of at most b");
         for (int b : new int[] {-999, -1, 0, 1, 500, 999}) {
@@ -451,7 +483,8 @@ public final class QueryEdgesTest {
     }
 
     private static void nestOfNineChildren() {
-        Checks.about("NEST, SCORE by b: 0: 0; 1: the sum; 2: the sum divided by how many they are; 3: the least; 4: the greatest");
+        Checks.about("NEST, SCORE by b: 0: 0; 1: the sum; 2: the sum divided by how many they are; 3: the least; "
+                + "4: the greatest");
         BlockSearch x = new BlockSearch();
         Checks.put(x, 0, "(0 (3 t0:1,1 ) (3 t0:1,1,1 ) (3 t0:1,1 ) (3 t0:1,1,1,1,1,1,1,1 ) (3 t0:1,1 ) (3 t0:1 ) "
                 + "(3 t0:1,1 ) (3 t0:1,1 ) (3 t0:1,1 ) )");
